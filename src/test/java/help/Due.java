@@ -1,3 +1,5 @@
+import java.util.function.LongSupplier;
+
 /** Counts the answers that are not as due. */
 final class Due {
     private static int wrong = 0;
@@ -24,6 +26,56 @@ final class Due {
         asked++;
         wrong++;
         System.out.println(what);
+    }
+
+    /** A call that returns an error: it counts once for this error, and changes nothing else. */
+    static void refused(String call, PairSorts x, LongSupplier asked, long want, int error) {
+        String before = state(x);
+        int[] counts = {x.told(0), x.told(1), x.told(2)};
+        due(call, asked.getAsLong(), want);
+        for (int i = 0; i < counts.length; i++) {
+            due("told(" + i + ") after " + call, x.told(i), counts[i] + (error == -2 - i ? 1 : 0));
+        }
+        if (!state(x).equals(before)) {
+            wrong(call + " changed something: " + before + " to " + state(x));
+        }
+    }
+
+    static void bad(String call, PairSorts x, LongSupplier asked) {
+        refused(call, x, asked, PairSorts.BAD, PairSorts.BAD);
+    }
+
+    static void no(String call, PairSorts x, LongSupplier asked) {
+        refused(call, x, asked, PairSorts.NO, PairSorts.NO);
+    }
+
+    /** The figures without the counts of errors, and the table. */
+    static String state(PairSorts x) {
+        StringBuilder s = new StringBuilder();
+        for (int what = 3; what <= 6; what++) {
+            s.append(x.told(what)).append(' ');
+        }
+        return s.append(triangle(x)).toString();
+    }
+
+    /** The table as table() takes it. */
+    static String triangle(PairSorts x) {
+        StringBuilder s = new StringBuilder();
+        for (int b = 1; b < x.told(4); b++) {
+            s.append(b > 1 ? " / " : "");
+            for (int a = 0; a < b; a++) {
+                s.append(x.sort(a, b));
+            }
+        }
+        return s.toString();
+    }
+
+    static void same(String what, String got, String want) {
+        asked++;
+        if (!got.equals(want)) {
+            wrong++;
+            System.out.println(what + " is " + got + ", due is " + want);
+        }
     }
 
     static void end() {
