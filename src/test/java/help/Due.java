@@ -22,10 +22,12 @@ final class Due {
         due(call + " denominator", gotBottom, bottom);
     }
 
-    static void wrong(String what) {
+    static void holds(boolean right, String otherwise) {
         asked++;
-        wrong++;
-        System.out.println(what);
+        if (!right) {
+            wrong++;
+            System.out.println(otherwise);
+        }
     }
 
     /** A call that returns an error: it counts once for this error, and changes nothing else. */
@@ -36,9 +38,7 @@ final class Due {
         for (int i = 0; i < counts.length; i++) {
             due("told(" + i + ") after " + call, x.told(i), counts[i] + (error == -2 - i ? 1 : 0));
         }
-        if (!state(x).equals(before)) {
-            wrong(call + " changed something: " + before + " to " + state(x));
-        }
+        same("the state after " + call, state(x), before);
     }
 
     static void bad(String call, PairSorts x, LongSupplier asked) {
