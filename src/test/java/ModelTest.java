@@ -132,6 +132,11 @@ public final class ModelTest {
             int minus = difference(0, d, orders);
             sorts[d] = minus < d ? sorts[minus] : 1 + random.nextInt(most);
         }
+        fill(orders, sorts);
+    }
+
+    private void fill(int[] orders, int[] sorts) {
+        int n = sorts.length;
         call("points", n);
         for (int y = 0; y < n; y++) {
             for (int x = 0; x < y; x++) {
@@ -140,6 +145,34 @@ public final class ModelTest {
                     call("pair", x, y, v);
                 }
             }
+        }
+    }
+
+    /** Each partition of the differences of each group that gives a scheme, under changed names. */
+    private static void everyGroup() {
+        for (int[] orders : GROUPS) {
+            int n = Arrays.stream(orders).reduce(1, (a, b) -> a * b);
+            everyPartition(orders, new int[n], 1, 0);
+        }
+    }
+
+    private static void everyPartition(int[] orders, int[] sorts, int d, int most) {
+        if (d == sorts.length) {
+            ModelTest test = new ModelTest(Arrays.hashCode(sorts), "group " + Arrays.toString(sorts));
+            test.fill(orders, sorts);
+            if (test.call("verdict", 0) == 0) {
+                int i = 1 + test.random.nextInt(Math.max(1, most));
+                test.call("renames", i, i % Math.max(2, most) + 1);
+                test.everyQuery();
+            }
+            return;
+        }
+        int minus = difference(0, d, orders);
+        int first = minus < d ? sorts[minus] : 1;
+        int last = minus < d ? sorts[minus] : Math.min(5, most + 1);
+        for (int v = first; v <= last; v++) {
+            sorts[d] = v;
+            everyPartition(orders, sorts, d + 1, Math.max(most, v));
         }
     }
 
@@ -290,6 +323,7 @@ public final class ModelTest {
         int runs = args.length > 0 ? Integer.parseInt(args[0]) : 300;
         long start = args.length > 1 ? Long.parseLong(args[1]) : 1;
         everyMade();
+        everyGroup();
         sieves();
         for (long seed = start; seed < start + runs; seed++) {
             new ModelTest(seed, "run " + seed).run(120, false);

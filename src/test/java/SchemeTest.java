@@ -31,8 +31,16 @@ public final class SchemeTest {
         judged("1 / 11 / 222 / 2221 / 22221 / 222121", 2, 1, 1, 1, 1, 16 * 3 + 4);
         // a ring of six points has 2 for distances 2 and 3: opposite points have no common neighbour
         judged("1 / 21 / 221 / 2221 / 12221", 2, 1, 1, 2, 2, 3);
+        // relation 1 is a ring of six points, and point 0 has no relation 2: the first pair is 1, 3
+        judged("1 / 31 / 321 / 3231 / 13331", 2, 1, 1, 2, 16 + 3, 16 + 4);
         // points 0 and 1 have relation 1 twice, point 2 once
         judged("1 / 23 / 131 / 2132", 2, 1, 1, 0, 0, 34);
+        // what was in the table before leaves no trace
+        PairSorts less = Due.table("1 / 21 / 221 / 1221");
+        less.drops(4);
+        less.drops(3);
+        Due.due("verdict(5) of a path", less.verdict(5), 17);
+        Due.due("verdict(3) of a path", less.verdict(3), 0);
         PairSorts x = new PairSorts();
         for (int what : new int[] {-1, 6, Integer.MAX_VALUE, Integer.MIN_VALUE}) {
             Due.bad("verdict(" + what + ")", x, () -> x.verdict(what));

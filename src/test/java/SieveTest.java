@@ -14,7 +14,8 @@ public final class SieveTest {
 
     private static void results() {
         // known graphs: the pentagon, Petersen's, Clebsch's, Schlaefli's, Hoffman and Singleton's, lattices, Gewirtz'
-        int[][] graphs = {{5, 2, 0, 1}, {10, 3, 0, 1}, {10, 6, 3, 4}, {16, 5, 0, 2}, {27, 16, 10, 8}, {50, 7, 0, 1},
+        int[][] graphs = {{5, 2, 0, 1}, {10, 3, 0, 1}, {10, 6, 3, 4}, {16, 5, 0, 2}, {27, 16, 10, 8}, {27, 10, 1, 5},
+            {50, 7, 0, 1},
             {9, 4, 1, 2}, {16, 6, 2, 2}, {13, 6, 2, 3}, {56, 10, 0, 2}, {6, 3, 0, 3}, {6, 4, 2, 4}, {4, 1, 0, 0},
             {15, 6, 1, 3}};
         for (int[] g : graphs) {

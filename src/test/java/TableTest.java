@@ -161,8 +161,12 @@ public final class TableTest {
         Due.same("the table after renames(1, 3)", Due.triangle(x), "3 / 21 / 312");
         Due.due("renames(4, 2)", x.renames(4, 2), 2);
         Due.same("the table after renames(4, 2)", Due.triangle(x), "3 / 41 / 314");
+        Due.due("renames(3, 1)", x.renames(3, 1), 4);
+        Due.due("renames(1, 3)", x.renames(1, 3), 4);
         Due.due("renames(5, 2) that changes nothing", x.renames(5, 2), 0);
         Due.due("told(6) after it", x.told(6), 6);
+        x.drops(3);
+        Due.due("renames(1, 2) of what is left", x.renames(1, 2), 1);
         int[][] wrong = {{1, 1}, {0, 1}, {1, 0}, {6, 1}, {1, 6}, {-1, 2}, {5, Integer.MIN_VALUE}};
         for (int[] w : wrong) {
             Due.bad("renames(" + w[0] + ", " + w[1] + ")", x, () -> x.renames(w[0], w[1]));
