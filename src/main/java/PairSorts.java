@@ -1112,9 +1112,9 @@ public final class PairSorts {
 
         private boolean fits(int b) {
             for (int a = 0; a < b; a++) {
-                long there = numbers[place(order[1], order[a], order[b])];
-                long back = numbers[place(order[1], order[b], order[a])];
-                boolean right = b - a == 1 ? there > 0 && back > 0 : there == 0 && back == 0;
+                long up = numbers[place(order[1], order[a], order[b])];
+                long down = numbers[place(order[1], order[b], order[a])];
+                boolean right = b - a == 1 ? up > 0 && down > 0 : up == 0 && down == 0;
                 if (!right) {
                     return false;
                 }
@@ -1268,13 +1268,13 @@ public final class PairSorts {
         private static final int MOST_TURNS = 1000;
 
         long bottom;
-        private int rows;
+        private int height;
         private int last;
         private final long[] cells = new long[WIDTH * COLUMNS];
         private final int[] basis = new int[WIDTH];
 
         long top() {
-            return at(rows, last);
+            return at(height, last);
         }
 
         void solve(Characters found, int allowed) {
@@ -1296,30 +1296,30 @@ public final class PairSorts {
 
         /** Columns: b(1) to b(L), what is left over in each condition, the right side; last row: the sum. */
         private void start(Characters found, int allowed) {
-            rows = found.greatest;
-            last = 2 * rows;
+            height = found.greatest;
+            last = 2 * height;
             bottom = 1;
             for (int i = 0; i < cells.length; i++) {
                 cells[i] = 0;
             }
-            for (int row = 0; row < rows; row++) {
-                for (int i = 1; i <= rows; i++) {
+            for (int row = 0; row < height; row++) {
+                for (int i = 1; i <= height; i++) {
                     cells[COLUMNS * row + i - 1] = (allowed >> i & 1) * -found.value(row + 1, i);
                 }
-                cells[COLUMNS * row + rows + row] = 1;
+                cells[COLUMNS * row + height + row] = 1;
                 cells[COLUMNS * row + last] = 1;
-                basis[row] = rows + row;
+                basis[row] = height + row;
             }
-            for (int i = 1; i <= rows; i++) {
-                cells[COLUMNS * rows + i - 1] = (allowed >> i & 1) * -found.valency(i);
+            for (int i = 1; i <= height; i++) {
+                cells[COLUMNS * height + i - 1] = (allowed >> i & 1) * -found.valency(i);
             }
-            cells[COLUMNS * rows + last] = 1;
+            cells[COLUMNS * height + last] = 1;
         }
 
         /** The first column that betters the sum: Bland's rule, which never goes round in circles. */
         private int entering() {
             for (int column = 0; column < last; column++) {
-                if (at(rows, column) < 0) {
+                if (at(height, column) < 0) {
                     return column;
                 }
             }
@@ -1328,7 +1328,7 @@ public final class PairSorts {
 
         private int leaving(int column) {
             int best = NONE;
-            for (int row = 0; row < rows; row++) {
+            for (int row = 0; row < height; row++) {
                 if (at(row, column) > 0 && (best == NONE || isNearer(row, best, column))) {
                     best = row;
                 }
@@ -1347,7 +1347,7 @@ public final class PairSorts {
             if (bottom == 0) {
                 return;
             }
-            for (int other = 0; other <= rows; other++) {
+            for (int other = 0; other <= height; other++) {
                 long factor = at(other, column);
                 for (int c = 0; c <= last && other != row; c++) {
                     long cell = at(other, c) * pivot - factor * at(row, c);
