@@ -4,15 +4,29 @@ import java.util.function.LongSupplier;
 final class Due {
     private static int wrong = 0;
     private static int asked = 0;
+    private static String subject = "";
 
     private Due() {
+    }
+
+    /** What the next answers are about, for the messages. */
+    static void about(String words) {
+        subject = words;
+    }
+
+    static int asked() {
+        return asked;
+    }
+
+    private static void complain(String message) {
+        wrong++;
+        System.out.println(subject.isEmpty() ? message : "[" + subject + "] " + message);
     }
 
     static void due(String call, long got, long want) {
         asked++;
         if (got != want) {
-            wrong++;
-            System.out.println(call + " answered " + got + ", due is " + want);
+            complain(call + " answered " + got + ", due is " + want);
         }
     }
 
@@ -25,8 +39,7 @@ final class Due {
     static void holds(boolean right, String otherwise) {
         asked++;
         if (!right) {
-            wrong++;
-            System.out.println(otherwise);
+            complain(otherwise);
         }
     }
 
@@ -73,8 +86,7 @@ final class Due {
     static void same(String what, String got, String want) {
         asked++;
         if (!got.equals(want)) {
-            wrong++;
-            System.out.println(what + " is " + got + ", due is " + want);
+            complain(what + " is " + got + ", due is " + want);
         }
     }
 
