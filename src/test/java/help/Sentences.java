@@ -12,6 +12,17 @@ import java.util.regex.Pattern;
  * of the document is left that neither a test quotes nor plain() names.
  */
 abstract class Sentences {
+    // tables that many sentences need, as Run.of() takes them
+
+    /** The table of a new object. */
+    static final String FOUR = "1 / 11 / 111";
+    /** Three points of which the middle one has two neighbours: no scheme. */
+    static final String PATH = "1 / 21";
+    /** Nine points of a plane with four directions: a scheme, of which all fusions are good. */
+    static final String PLANE = "1 / 11 / 243 / 3241 / 43211 / 234243 / 4233241 / 34243211";
+    /** Three bits, their differences in five sorts: an integral scheme with as many relations as there can be. */
+    static final String BITS = "1 / 23 / 321 / 4455 / 44551 / 554423 / 5544321";
+
     private static final Pattern CAPITALS = Pattern.compile("[A-Z][A-Z ]+");
     private static final Pattern SIGNATURE = Pattern.compile("`[^`]*`");
 

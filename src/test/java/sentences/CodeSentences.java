@@ -2,10 +2,6 @@ import java.util.List;
 
 /** FUSIONS, CODES and promises 18 to 22. */
 final class CodeSentences extends Sentences {
-    /** No scheme. */
-    private static final String PATH = "1 / 21";
-    private static final String PLANE = "1 / 11 / 243 / 3241 / 43211 / 234243 / 4233241 / 34243211";
-    private static final String BITS = "1 / 23 / 321 / 4455 / 44551 / 554423 / 5544321";
     /** Twelve points with five relations, of which 1, 2 and 3 have a bound of fifths. */
     private static final String TWELVE = "1 / 22 / 221 / 3422 / 43221 / 553422 / 5543221 / 34553422 / 435543221"
             + " / 2234553422 / 22435543221";
@@ -131,6 +127,12 @@ final class CodeSentences extends Sentences {
         Run.of(TWELVE).fraction("bound(32)", 2, 1).fraction("bound(14)", 24, 5).fraction("bound(48)", 5, 2)
                 .fraction("bound(62)", 12, 1).fraction("bound(6)", 4, 1).fraction("bound(8)", 3, 1)
                 .fraction("bound(12)", 3, 1).fraction("bound(10)", 3, 1);
+        // three bits again: corners in which more conditions meet than there are numbers
+        Run bits = Run.of("3 / 32 / 233 / 3143 / 13343 / 433132 / 3413233");
+        long[] due = {1, 2, 2, 2, 2, 4, 4, 4, 2, 2, 2, 4, 4, 4, 4, 8};
+        for (int i = 0; i < due.length; i++) {
+            bits.fraction("bound(" + 2 * i + ")", due[i], 1);
+        }
     }
 
     private static Fraction asked(Run run, String call) {

@@ -3,12 +3,6 @@ import java.util.List;
 
 /** ROWS and promises 12 to 17. */
 final class RowSentences extends Sentences {
-    /** No scheme. */
-    private static final String PATH = "1 / 21";
-    /** Nine points of a plane with four directions; the differences of three bits in five sorts. */
-    private static final String PLANE = "1 / 11 / 243 / 3241 / 43211 / 234243 / 4233241 / 34243211";
-    private static final String BITS = "1 / 23 / 321 / 4455 / 44551 / 554423 / 5544321";
-
     static void all() {
         rowsOfSchemes();
         figuresOfRows();
@@ -463,8 +457,15 @@ final class RowSentences extends Sentences {
         });
         says("- `k`: NONE for their number, otherwise an index", () -> Run.kind(0, 7, 0).due("orders(0, NONE)", 3)
                 .due("orders(0, 0)", 123).due("orders(0, 2)", 312).quiet("orders(0, 3)", -5).bad("orders(0, -2)"));
-        says("Returns the number of orders, or the order;", () -> Run.of(PLANE).due("orders(0, NONE)", 0)
-                .due("orders(1, NONE)", 0).then("points(2)").due("orders(0, NONE)", 1).due("orders(1, 0)", 1));
+        says("Returns the number of orders, or the order;", () -> {
+            // those of the table as it is, and none of the tables before it
+            listed(listed(listed(Run.kind(0, 7, 0), 0, 123, 231, 312).then("makes(0, 8, 0)"), 0, 1234, 3214)
+                    .then("undo()"), 0, 123, 231, 312);
+            Run rows = listed(listed(Run.kind(2, 2, 5), 1, 12, 21).then("makes(4, 2, 3)"), 1, 321);
+            listed(listed(rows.then("points(2)"), 1, 1).then("points(1)"), 1, 0);
+            Run.of(PLANE).due("orders(0, NONE)", 0).due("orders(1, NONE)", 0).then("points(2)").due("orders(0, NONE)", 1)
+                    .due("orders(1, 0)", 1);
+        });
         says("-5 if there are not so many;", () -> {
             Run.of(PLANE).quiet("orders(0, 0)", -5).quiet("orders(1, 0)", -5);
             Run.kind(1, 3, 2).quiet("orders(0, 1)", -5).quiet("orders(1, 1)", -5).quiet("orders(0, 120)", -5)

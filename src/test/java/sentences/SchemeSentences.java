@@ -1,7 +1,5 @@
 /** THE TABLE as far as it tells of schemes, and promises 9 to 11. */
 final class SchemeSentences extends Sentences {
-    /** Three points of which the middle one has two neighbours: no scheme. */
-    private static final String PATH = "1 / 21";
     /** A ring of six points with relation 2 for the distances 2 and 3: only pairs of relation 2 differ. */
     private static final String RING = "1 / 21 / 221 / 2221 / 12221";
 

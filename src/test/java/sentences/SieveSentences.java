@@ -147,12 +147,13 @@ final class SieveSentences extends Sentences {
     private static void sieved() {
         at("Promise 24");
         says("Returns the parameters k, l, m for which sieve() with n returns 0, ordered by k, then l, then m.", () -> {
-            for (int n : new int[] {3, 4, 5, 9, 16, 26, 40, 60}) {
+            for (int n = 3; n <= 60; n++) {
                 int count = 0;
                 for (int k = 1; k <= n - 2; k++) {
                     for (int l = 0; l <= k - 1; l++) {
+                        PairSorts x = new PairSorts();
                         for (int m = 0; m <= k; m++) {
-                            if (new PairSorts().sieve(n, k, l, m) == 0) {
+                            if (x.sieve(n, k, l, m) == 0) {
                                 Due.due("sieved(" + n + ", " + count + ")", new PairSorts().sieved(n, count),
                                         10000 * k + 100 * l + m);
                                 count++;

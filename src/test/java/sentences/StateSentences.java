@@ -2,10 +2,6 @@ import java.util.List;
 
 /** FRACTIONS AND STATES, ERRORS and promises 28 to 30. */
 final class StateSentences extends Sentences {
-    /** No scheme. */
-    private static final String PATH = "1 / 21";
-    private static final String FOUR = "1 / 11 / 111";
-
     static void all() {
         fractions();
         states();

@@ -2,7 +2,6 @@
 final class TableSentences extends Sentences {
     private static final String[] CHANGES = {"points(13)", "makes(1, 3, 2)", "fuses(1)", "pair(7, 0, 5)",
         "renames(1, 5)", "drops(0)", "undo()", "points(1)"};
-    private static final String ALL_ONE = "1 / 11 / 111";
 
     static void all() {
         theTable();
@@ -75,12 +74,12 @@ final class TableSentences extends Sentences {
     private static void newObject() {
         at("Promise 1");
         says("Creates the table described, with an empty text;", () -> {
-            new Run().list("told(#)", 0, 0, 0, 0, 0, 4, 1, 0).shows(ALL_ONE).due("clear()", 0).due("reads()", -10);
+            new Run().list("told(#)", 0, 0, 0, 0, 0, 4, 1, 0).shows(FOUR).due("clear()", 0).due("reads()", -10);
             // an object knows nothing of another one
             new Run().then("points(7)", "type(65)", "told(9)");
             new Run().list("told(#)", 0, 0, 0, 0, 0, 4, 1, 0).due("type(110)", 1);
         });
-        says("nothing can be undone.", () -> new Run().due("told(6)", 0).no("undo()").shows(ALL_ONE));
+        says("nothing can be undone.", () -> new Run().due("told(6)", 0).no("undo()").shows(FOUR));
     }
 
     private static void points() {
@@ -93,7 +92,7 @@ final class TableSentences extends Sentences {
         });
         says("All relations of different points become 1.", () -> {
             Run.of("5 / 23").then("points(3)").shows("1 / 11");
-            Run.of("5 / 23").then("points(4)").shows(ALL_ONE);
+            Run.of("5 / 23").then("points(4)").shows(FOUR);
             Run.of("5 / 23").then("points(2)").shows("1").then("points(3)").shows("1 / 11");
             Run.of("5 / 23").then("points(1)").shows("").then("points(3)").shows("1 / 11");
             Run run = new Run().then("points(13)", "pair(12, 0, 3)", "pair(12, 11, 4)", "points(13)");
@@ -174,7 +173,9 @@ final class TableSentences extends Sentences {
             Run.busy().due("makes(1, 1, 2)", 2).due("makes(1, 1, 13)", 13).due("makes(1, 3, 2)", 8);
             Run.busy().bad("makes(1, 0, 2)", "makes(1, 4, 2)", "makes(1, 1, 1)", "makes(1, 1, 14)", "makes(1, 0, 13)",
                     "makes(1, -1, 2)", "makes(1, 3, 1)", "makes(1, 3, 0)", "makes(1, 2, -2)", "makes(1, 2, -3)",
-                    "makes(1, 1, MAX)", "makes(1, 2, 65536)", "makes(1, MIN, 2)", "makes(1, MAX, 2)");
+                    "makes(1, 1, MAX)", "makes(1, MIN, 2)", "makes(1, MAX, 2)");
+            // these numbers of words wrap around to 1, 0 and 9
+            Run.busy().bad("makes(1, 2, MAX)", "makes(1, 2, 65536)", "makes(1, 3, 259969305)");
         });
         says("the points are all numbers with a digits to base b, leading zeros included;", () -> {
             Run.busy().due("makes(1, 2, 3)", 9).due("makes(1, 2, 2)", 4).due("makes(1, 3, 2)", 8);
@@ -207,8 +208,8 @@ final class TableSentences extends Sentences {
         says("the number of elements of the one that are not in the other one.", () -> {
             // 0011, 0101, 0110, 1001, 1010, 1100
             made("makes(2, 2, 4)", 6, "1 / 11 / 112 / 1211 / 21111");
-            made("makes(2, 1, 4)", 4, ALL_ONE);
-            made("makes(2, 3, 4)", 4, ALL_ONE);
+            made("makes(2, 1, 4)", 4, FOUR);
+            made("makes(2, 3, 4)", 4, FOUR);
         });
     }
 
@@ -216,8 +217,10 @@ final class TableSentences extends Sentences {
         says("kind 3, heaps: a and b are 1 to 13;", () -> {
             Run.busy().due("makes(3, 1, 1)", 1).due("makes(3, 13, 1)", 13).due("makes(3, 1, 13)", 13);
             Run.busy().bad("makes(3, 0, 1)", "makes(3, 1, 0)", "makes(3, 14, 1)", "makes(3, 1, 14)", "makes(3, 0, 0)",
-                    "makes(3, -1, -1)", "makes(3, -3, -4)", "makes(3, 65536, 65536)", "makes(3, MIN, 1)",
-                    "makes(3, 1, MAX)");
+                    "makes(3, -1, -1)", "makes(3, -3, -4)", "makes(3, MIN, 1)", "makes(3, 1, MAX)");
+            // these products wrap around to 2, 2, 1 and 0
+            Run.busy().bad("makes(3, 3, 1431655766)", "makes(3, 1431655766, 3)", "makes(3, MAX, MAX)",
+                    "makes(3, 65536, 65536)");
         });
         says("n is a * b, and point x is in heap x / b (integer division);", () -> {
             Run.busy().due("makes(3, 6, 2)", 12).due("told(4)", 12).due("makes(3, 2, 6)", 12).due("told(4)", 12);
@@ -227,10 +230,10 @@ final class TableSentences extends Sentences {
         says("1 if both are in the same heap, otherwise 2;", () -> {
             made("makes(3, 2, 3)", 6, "1 / 11 / 222 / 2221 / 22211");
             made("makes(3, 3, 2)", 6, "1 / 22 / 221 / 2222 / 22221");
-            made("makes(3, 1, 4)", 4, ALL_ONE);
+            made("makes(3, 1, 4)", 4, FOUR);
         });
         says("but 1 for all if b is 1.", () -> {
-            made("makes(3, 4, 1)", 4, ALL_ONE);
+            made("makes(3, 4, 1)", 4, FOUR);
             made("makes(3, 2, 1)", 2, "1");
             made("makes(3, 1, 1)", 1, "");
             Run.kind(3, 13, 1).due("told(5)", 1).due("sort(12, 0)", 1);
@@ -243,6 +246,8 @@ final class TableSentences extends Sentences {
             Run.busy().bad("makes(4, 1, 2)", "makes(4, 2, 1)", "makes(4, 7, 2)", "makes(4, 2, 7)", "makes(4, 1, 1)",
                     "makes(4, 0, 3)", "makes(4, 12, 1)", "makes(4, 1, 13)", "makes(4, -2, -3)", "makes(4, MAX, 2)",
                     "makes(4, 2, MIN)");
+            // these products wrap around to 8
+            Run.busy().bad("makes(4, 3, 1431655768)", "makes(4, 1431655768, 3)");
         });
         says("n is a * b, and point x is in row x / b and column x % b;", () -> {
             Run.busy().due("makes(4, 3, 4)", 12).due("told(4)", 12).due("makes(4, 3, 3)", 9).due("told(4)", 9);

@@ -1,6 +1,5 @@
 /** TEXTS and promises 25 to 27. */
 final class TextSentences extends Sentences {
-    private static final String FOUR = "1 / 11 / 111";
     /** 33 commands in 99 bytes: there is no room for another one. */
     private static final String MANY = "n5;".repeat(33);
 
