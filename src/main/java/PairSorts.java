@@ -513,10 +513,13 @@ public final class PairSorts {
         return table.greatest();
     }
 
-    /** The points and the relation of each two of them. */
+    /**
+     * The points and the relation of each two of them. There are always 1 to 13 points, and put() alone
+     * sets a cell: so a point and a relation of a table are an index into what is indexed by them.
+     */
     private static final class Table {
         int size;
-        final int[] cells = new int[MOST_POINTS * MOST_POINTS];
+        private final int[] cells = new int[MOST_POINTS * MOST_POINTS];
 
         Table() {
             reset(4);
@@ -527,15 +530,22 @@ public final class PairSorts {
         }
 
         int cell(int x, int y) {
-            return cells[MOST_POINTS * x + y];
+            boolean inside = x >= 0 && x < MOST_POINTS && y >= 0 && y < MOST_POINTS;
+            return inside ? cells[MOST_POINTS * x + y] : 0;
         }
 
         void put(int x, int y, int v) {
-            cells[MOST_POINTS * x + y] = v;
-            cells[MOST_POINTS * y + x] = v;
+            boolean inside = x >= 0 && x < MOST_POINTS && y >= 0 && y < MOST_POINTS;
+            if (inside && v >= 0 && v <= MOST_SORT) {
+                cells[MOST_POINTS * x + y] = v;
+                cells[MOST_POINTS * y + x] = v;
+            }
         }
 
         void reset(int n) {
+            if (n < 1 || n > MOST_POINTS) {
+                return;
+            }
             size = n;
             for (int y = 0; y < n; y++) {
                 for (int x = 0; x < y; x++) {
@@ -585,6 +595,9 @@ public final class PairSorts {
         }
 
         void remove(int point) {
+            if (size == 1) {
+                return;
+            }
             size--;
             for (int y = 1; y < size; y++) {
                 for (int x = 0; x < y; x++) {
@@ -599,7 +612,8 @@ public final class PairSorts {
             size = other.size;
             for (int y = 0; y < size; y++) {
                 for (int x = 0; x < y; x++) {
-                    put(x, y, digits[other.cell(x, y)]);
+                    int v = other.cell(x, y);
+                    put(x, y, v < digits.length ? digits[v] : v);
                 }
                 put(y, y, 0);
             }
@@ -745,9 +759,11 @@ public final class PairSorts {
 
         /** The relation of x and y, x less than y, in a table of n points; b is as sizeOf() has found it good. */
         private int relation(int kind, int n, int b, int x, int y) {
+            if (b < 1) {
+                // the ring alone has no b
+                return Math.min(y - x, n - y + x);
+            }
             switch (kind) {
-                case RING:
-                    return Math.min(y - x, n - y + x);
                 case WORDS:
                     return differentDigits(x, y, b);
                 case SETS:
@@ -807,7 +823,8 @@ public final class PairSorts {
 
         /** An intersection number; only if the table is a scheme. */
         int number(int i, int j, int k) {
-            return firstWalks[WIDTH * k + i] >> 4 * j & 15;
+            boolean inside = i >= 0 && i < WIDTH && j >= 0 && j < WIDTH && k >= 0 && k < WIDTH;
+            return inside ? firstWalks[WIDTH * k + i] >> 4 * j & 15 : 0;
         }
 
         int part(int what) {
@@ -815,7 +832,7 @@ public final class PairSorts {
                 explain();
                 explained = true;
             }
-            return parts[what];
+            return what >= 0 && what < parts.length ? parts[what] : NONE;
         }
 
         private int missing() {
@@ -858,9 +875,8 @@ public final class PairSorts {
             for (int i = 0; i < WIDTH; i++) {
                 walks[i] = 0;
             }
-            int[] cells = table.cells;
             for (int z = 0; z < table.size; z++) {
-                walks[cells[MOST_POINTS * x + z]] += 1 << 4 * cells[MOST_POINTS * y + z];
+                walks[table.cell(x, z)] += 1 << 4 * table.cell(y, z);
             }
         }
 
@@ -956,20 +972,21 @@ public final class PairSorts {
         private final int[] attempt = new int[WIDTH];
 
         int value(int r, int i) {
-            return values[WIDTH * r + i];
+            return r >= 0 && r < WIDTH && i >= 0 && i < WIDTH ? values[WIDTH * r + i] : 0;
         }
 
         int multiplicity(int r) {
-            return multiplicities[r];
+            return r >= 0 && r < WIDTH ? multiplicities[r] : 0;
         }
 
         int valency(int i) {
-            return valencies[i];
+            return i >= 0 && i < WIDTH ? valencies[i] : 0;
         }
 
         /** The product of all valencies but that of i. */
         long share(int i) {
-            return valencies[i] == 0 ? 0 : product / valencies[i];
+            int divisor = valency(i);
+            return divisor == 0 ? 0 : product / divisor;
         }
 
         void find(Scheme scheme) {
@@ -1221,7 +1238,7 @@ public final class PairSorts {
 
         /** The number of pairs of relation i in the code that was counted last. */
         int pairs(int i) {
-            return tally[i];
+            return i >= 0 && i < WIDTH ? tally[i] : 0;
         }
 
         int largest(Table table, int allowed) {
@@ -1447,11 +1464,12 @@ public final class PairSorts {
         }
 
         int letter(int command) {
-            return letters[command];
+            return command >= 0 && command < commands ? letters[command] : 0;
         }
 
         int number(int command, int i) {
-            return numbers[NUMBERS * command + i];
+            boolean inside = command >= 0 && command < commands && i >= 0 && i < NUMBERS;
+            return inside ? numbers[NUMBERS * command + i] : 0;
         }
 
         /** Reads the commands; returns the fault of the text, NONE if it has none. */
